@@ -904,19 +904,16 @@ public final class PastWatch {
             wrong = 0;
             wrongAt = NONE;
             isBroken = false;
-            goTo(0);
-        }
-
-        private void goTo(int token) {
-            at = token;
-            sort = tokens.sorts.get(token);
-            place = tokens.starts.get(token);
-            worth = tokens.worths.get(token);
+            at = NONE;
+            advance();
         }
 
         private void advance() {
             if (!isBroken) {
-                goTo(at + 1);
+                at++;
+                sort = tokens.sorts.get(at);
+                place = tokens.starts.get(at);
+                worth = tokens.worths.get(at);
             }
         }
 
@@ -1030,9 +1027,9 @@ public final class PastWatch {
         // f implies g implies h is the same as {f and g} implies h, and has the
         // same reason; read so, a long row of them needs no recursion.
         private int formula(int depth) {
+            int start = place;
             int node = either(depth);
             for (int more = 0; more < MOST_TOKENS && sort == IMPLIES; more++) {
-                int start = place;
                 advance();
                 int second = either(depth);
                 node = nodes.add(sort == IMPLIES ? AND : IMPLIES, start, node, second);
@@ -1041,9 +1038,9 @@ public final class PastWatch {
         }
 
         private int either(int depth) {
+            int start = place;
             int node = both(depth);
             for (int more = 0; more < MOST_TOKENS && sort == OR; more++) {
-                int start = place;
                 advance();
                 int second = both(depth);
                 node = nodes.add(OR, start, node, second);
@@ -1052,9 +1049,9 @@ public final class PastWatch {
         }
 
         private int both(int depth) {
+            int start = place;
             int node = since(depth);
             for (int more = 0; more < MOST_TOKENS && sort == AND; more++) {
-                int start = place;
                 advance();
                 int second = since(depth);
                 node = nodes.add(AND, start, node, second);
