@@ -244,6 +244,12 @@ final class LanguageTest {
         String watches = items("watch w", ":true;", 12);
         right(signals + lets + values + watches);
         for (String text : new String[] {signals + lets + values + watches, watches + values + lets + signals}) {
+            PastWatch bench = Checks.bench(text);
+            bench.tick(0);
+            for (int i = 0; i < 12; i++) {
+                Checks.askError(bench, "is w" + i + " and is l" + i + " and v" + i + " = s" + i % 8, 0, -1);
+                Checks.due("answer of the names", true, bench.answer(0));
+            }
             Checks.error(text + " signal x = 1;", 4, text.length() + 1);
             Checks.error(text + " let x := true;", 4, text.length() + 1);
             Checks.error(text + " value x = 1;", 4, text.length() + 1);
