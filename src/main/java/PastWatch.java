@@ -1013,6 +1013,9 @@ public final class PastWatch {
             if (sort == OPEN_BOUNDS) {
                 advance();
                 low = (int) worth;
+                if (sort == NUMBER && low > MOST_BOUND) {
+                    complain(ERROR_NUMBER, place);
+                }
                 expect(NUMBER);
                 expect(DOTS);
                 high = (int) worth;

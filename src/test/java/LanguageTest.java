@@ -269,9 +269,20 @@ final class LanguageTest {
         right("watch w: true since[0..1000] true level 0;");
         Checks.error("watch w: once[1..0] true;", 5, 17);
         Checks.error("watch w: always[0..1001] true;", 5, 19);
-        Checks.error("watch w: once[1001..1001] true;", 5, 20);
-        Checks.error("watch w: once[1001..1000] true;", 5, 20);
-        Checks.error("watch w: true since[999999..999999] true;", 5, 28);
+        // A bound that is greater than 1000 may be the first one: it stands left of the second.
+        Checks.error("watch w: once[1001..1001] true;", 5, 14);
+        Checks.error("watch w: once[1001..1000] true;", 5, 14);
+        Checks.error("watch w: once[1001..0] true;", 5, 14);
+        Checks.error("watch w: always [ 1001 .. 1002 ] true;", 5, 18);
+        Checks.error("watch w: once[1000..1001] true;", 5, 20);
+        Checks.error("watch w: once[1000..999] true;", 5, 20);
+        Checks.error("watch w: true since[999999..999999] true;", 5, 20);
+        Checks.error("watch w: x = 1 and once[1001..2] true;", 2, 9);
+        Checks.error("watch w: once[1001..2] x = 1;", 5, 14);
+        // An error of form behind the bound comes first all the same.
+        Checks.error("watch w: once[1001 true;", 1, 19);
+        Checks.error("watch w: once[1001..1002 true;", 1, 25);
+        Checks.error("watch w: once[1001..] true;", 1, 20);
         Checks.error("watch w: true since [ 7 .. 6 ] true;", 5, 27);
         Checks.error("watch w: true level 10;", 5, 20);
         Checks.error("watch w: true level 999999;", 5, 20);

@@ -76,6 +76,9 @@ final class QuestionsTest {
         Checks.askError(bench, "once[3..2] is q", 5, 8);
         Checks.askError(bench, "once[3..2] is q or", 1, 18);
         Checks.askError(bench, "always[0..1001] true", 5, 10);
+        Checks.askError(bench, "once[1001..1002] true", 5, 5);
+        Checks.askError(bench, "true since[1001..3] true", 5, 11);
+        Checks.askError(bench, "once[1001..1002] true level", 1, 22);
         Checks.askError(bench, "is s", 2, 3);
         Checks.askError(bench, "odd = 1", 2, 0);
         Checks.askError(bench, "is total", 2, 3);

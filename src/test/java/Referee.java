@@ -228,6 +228,9 @@ final class Referee {
                     complain(2, i);
                 }
             }
+            if (before.equals("[") && Integer.parseInt(token) > 1000) {
+                complain(5, i);
+            }
             if (before.equals("..")) {
                 int high = Integer.parseInt(token);
                 if (high < Integer.parseInt(tokens.get(i - 2)) || high > 1000) {
