@@ -8,6 +8,8 @@ final class Checks {
 
     private static int wrong = 0;
     private static int done = 0;
+    private static int sentences = 0;
+    private static String sentence = "";
 
     private Checks() {
     }
@@ -17,9 +19,25 @@ final class Checks {
         if (!want.equals(got)) {
             wrong++;
             if (wrong <= 40) {
-                System.out.println(what + ": answered " + got + ", due is " + want);
+                System.out.println(sentence + what + ": answered " + got + ", due is " + want);
             }
         }
+    }
+
+    /** The test of one sentence of the document, by the part it stands in and its own words; what fails in it tells these. */
+    static void sentence(String part, String words, Runnable test) {
+        int before = done;
+        sentence = part + ", \"" + words + "\" is broken: ";
+        sentences++;
+        try {
+            test.run();
+        } catch (RuntimeException e) {
+            due("the test", "ends", e.toString());
+        }
+        if (done == before) {
+            due("the test", "looks at an answer", "looks at none");
+        }
+        sentence = "";
     }
 
     /** The answer of a call, or "throws X". */
@@ -84,7 +102,8 @@ final class Checks {
     }
 
     static void end(String name) {
-        System.out.println(name + ": " + done + " answers, " + wrong + " wrong");
+        String told = sentences == 0 ? "" : sentences + " sentences, ";
+        System.out.println(name + ": " + told + done + " answers, " + wrong + " wrong");
         if (wrong != 0) {
             System.exit(1);
         }
